@@ -10,7 +10,7 @@ public final class HemSuffixes {
     private static final long DIGEST_START = 1483L;
     private static final long DIGEST_FACTOR = 31L;
 
-    /** No place; as a stitch it stands behind the last one, and is less than every stitch. */
+    // No place, and what stands behind the last stitch: less than every stitch, so a shorter row is less by itself.
     private static final int NONE = -1;
 
     private final Hem hemZero;
@@ -278,10 +278,7 @@ public final class HemSuffixes {
         }
     }
 
-    /**
-     * The place of the hem 0 whose end begins with the seam; NONE if no row is in both hems. Of several seams as
-     * long the least one comes first, since the ends are gone through in their order.
-     */
+    // The ends are gone through in their order: the first one with the most begins with the least row as long.
     private int seamPlace() {
         int best = NONE;
         int most = 0;
@@ -300,7 +297,7 @@ public final class HemSuffixes {
         return hemZero.stitches.mostSharedWith(place, hemOne.stitches);
     }
 
-    /** Stitches, one behind the other; they come and go at their end. */
+    /** Serves the hems and the sample alike; the sample leaves room unused, so that one length fits all. */
     private static final class Stitches {
         private final int[] kinds;
         private int length;
@@ -310,7 +307,6 @@ public final class HemSuffixes {
             length = 0;
         }
 
-        /** The stitch at a place, NONE where there is no such place. */
         int at(int place) {
             if (place < 0 || place >= length || place >= kinds.length) {
                 return NONE;
@@ -329,7 +325,6 @@ public final class HemSuffixes {
             length = many < length ? length - many : 0;
         }
 
-        /** How many stitches the end here and an end there have in common. */
         int sharedWith(int place, Stitches other, int otherPlace) {
             int most = Math.min(length - place, other.length - otherPlace);
             int shared = 0;
@@ -339,7 +334,7 @@ public final class HemSuffixes {
             return shared;
         }
 
-        /** The sign tells whether the end here is the lesser one; without it, 1 more than both have in common. */
+        // Answers as the promise 12 wants it; the order of the ends takes the sign alone.
         int difference(int place, Stitches other, int otherPlace) {
             int shared = sharedWith(place, other, otherPlace);
             int here = at(place + shared);
@@ -350,13 +345,12 @@ public final class HemSuffixes {
             return here < there ? -(shared + 1) : shared + 1;
         }
 
-        /** The most stitches that the end here has in common with any end there; 0 where there is no such place. */
         int mostSharedWith(int place, Stitches other) {
             if (place < 0) {
                 return 0;
             }
             int most = 0;
-            // An end there that is not longer than the most so far, nor any behind it, can have more in common.
+            // An end there that is no longer than the most so far can't have more in common, nor can those behind it.
             for (int there = 0; there + most < other.length; there++) {
                 most = Math.max(most, sharedWith(place, other, there));
             }
@@ -367,8 +361,8 @@ public final class HemSuffixes {
             return sharedWith(here, other, from) >= many;
         }
 
-        /** The first place here of the row of so many stitches from a place there on; NONE without it. */
         int firstPlaceOf(Stitches other, int from, int many) {
+            // A row has one stitch or more: an empty sample stands nowhere.
             if (many < 1) {
                 return NONE;
             }
@@ -380,7 +374,6 @@ public final class HemSuffixes {
             return NONE;
         }
 
-        /** At how many places here the row of so many stitches from a place there on stands. */
         int placesOf(Stitches other, int from, int many) {
             if (many < 1) {
                 return 0;
@@ -431,20 +424,18 @@ public final class HemSuffixes {
             return at(place < length ? place : place - length);
         }
 
-        /** How many rows come that were not here, if a stitch came to the end. */
         int newRowsBy(int stitch) {
-            // All that is new ends with the stitch; what stands here already makes all that is shorter old too.
+            // New rows end with the stitch; if one of these stands here already, all shorter ones do too.
             int known = 0;
             for (int place = 0; place < length; place++) {
                 if (at(place) == stitch) {
-                    known = Math.max(known, 1 + sharedAhead(place));
+                    known = Math.max(known, 1 + sharedBackwardsFrom(place));
                 }
             }
             return length + 1 - known;
         }
 
-        /** How many stitches, backwards from a place and from behind the last stitch, are the same. */
-        private int sharedAhead(int place) {
+        private int sharedBackwardsFrom(int place) {
             int shared = 0;
             while (shared < place && at(place - 1 - shared) == at(length - 1 - shared)) {
                 shared++;
@@ -453,7 +444,7 @@ public final class HemSuffixes {
         }
     }
 
-    /** A hem: its stitches, and the order of its ends, kept anew whenever the stitches change. */
+    /** Orders its ends anew whenever its stitches change, so that no question has to. */
     private static final class Hem {
         private final Stitches stitches;
         private final int[] placesInOrder;
@@ -480,13 +471,13 @@ public final class HemSuffixes {
             orderEnds();
         }
 
+        // The shortest end goes first: where stitches repeat, a longer one then mostly finds its rank at once.
         private void orderEnds() {
             for (int held = 0; held < stitches.length && held < placesInOrder.length; held++) {
                 putInOrder(stitches.length - 1 - held, held);
             }
         }
 
-        /** Puts the end at a place among those that are in order already. */
         private void putInOrder(int place, int held) {
             int rank = held;
             while (rank > 0 && stitches.difference(place, stitches, placesInOrder[rank - 1]) < 0) {
@@ -496,7 +487,6 @@ public final class HemSuffixes {
             placesInOrder[rank] = place;
         }
 
-        /** The place of the end at a rank, NONE where there is no such rank. */
         int placeAt(int rank) {
             if (rank < 0 || rank >= stitches.length || rank >= placesInOrder.length) {
                 return NONE;
@@ -513,7 +503,6 @@ public final class HemSuffixes {
             return NONE;
         }
 
-        /** How many stitches the ends at a rank and at the next one have in common; 0 where one is missing. */
         int sharedWithNext(int rank) {
             int place = placeAt(rank);
             int next = placeAt(rank + 1);
@@ -535,7 +524,7 @@ public final class HemSuffixes {
             return shared;
         }
 
-        /** How many rows the end at a rank begins with that no lesser end begins with. */
+        // What an end has in common with the one ahead of it in the order was counted there.
         private int rowsFirstAt(int rank) {
             return stitches.length - placeAt(rank) - sharedWithNext(rank - 1);
         }
@@ -548,7 +537,6 @@ public final class HemSuffixes {
             return rows;
         }
 
-        /** 64 times the first place of the row of a number, and its stitches; NONE without it. */
         int rowOfNumber(int number) {
             int left = number;
             for (int rank = 0; rank < stitches.length; rank++) {
@@ -562,7 +550,7 @@ public final class HemSuffixes {
             return NONE;
         }
 
-        /** The least rank whose end has the most in common with the next one; NONE without a repeat. */
+        // The ends are gone through in their order: the first one with the most begins with the least repeat as long.
         int repeatRank() {
             int best = NONE;
             int most = 0;

@@ -207,20 +207,29 @@ public final class PromiseTest {
     private static void endAndRank() {
         // The ends of 102020 in order: 0, 020, 02020, 102020, 20, 2020.
         HemSuffixes made = hems("102020", "3333", "");
-        int[] places = {5, 3, 1, 0, 4, 2};
-        for (int rank = 0; rank < places.length; rank++) {
-            int asked = rank;
-            check.due("end(0, " + rank + ")", places[rank], () -> made.end(0, asked));
-            check.due("rank(0, " + places[rank] + ")", rank, () -> made.rank(0, places[asked]));
-        }
+        ordered("102020", made, 5, 3, 1, 0, 4, 2);
         for (int rank = 0; rank < 4; rank++) {
             int asked = rank;
             check.due("the shorter end is less", 3 - rank, () -> made.end(1, asked));
             check.due("its rank", 3 - rank, () -> made.rank(1, asked));
         }
+        ordered("the order after sew", hem("21"), 1, 0);
+        HemSuffixes sewnAgain = hem("21");
+        sewnAgain.again(0, 2);
+        ordered("the order after again", sewnAgain, 3, 1, 2, 0);
+        sewnAgain.unpick(0, 1);
+        ordered("the order after unpick", sewnAgain, 1, 2, 0);
         noPlace("end", made, (hem, rank) -> made.end(hem, rank));
         noPlace("rank", made, (hem, place) -> made.rank(hem, place));
         noPlace("end of an empty one", new HemSuffixes(), (hem, rank) -> new HemSuffixes().end(hem, rank));
+    }
+
+    private static void ordered(String what, HemSuffixes made, int... places) {
+        for (int rank = 0; rank < places.length; rank++) {
+            int asked = rank;
+            check.due(what + ": end(0, " + rank + ")", places[rank], () -> made.end(0, asked));
+            check.due(what + ": rank(0, " + places[rank] + ")", rank, () -> made.rank(0, places[asked]));
+        }
     }
 
     private static void common() {
@@ -247,6 +256,10 @@ public final class PromiseTest {
         refused("no place -1", Check.INDEX, made, () -> made.against(-1, 0));
         refused("no place 4 of the hem 1", Check.INDEX, made, () -> made.against(0, 4));
         refused("no place -1 of the hem 1", Check.INDEX, made, () -> made.against(0, -1));
+        HemSuffixes noughts = hems("10", "00", "");
+        check.due("nothing is less than the stitch 0", -2, () -> noughts.against(1, 0));
+        check.due("the stitch 0 is more than nothing", 2, () -> hems("00", "10", "").against(0, 1));
+        check.due("the same at other places", 0, () -> noughts.against(1, 1));
         HemSuffixes longer = hems("12", "123", "");
         check.due("a place that the hem 1 alone has", Check.INDEX, () -> longer.against(2, 0));
         check.due("the last place of the hem 1", -1, () -> longer.against(0, 2));
@@ -385,6 +398,8 @@ public final class PromiseTest {
         seamOf("3412", "1234", 2, 2, 0);
         seamOf("1212", "012012", 2, 0, 1);
         seamOf("333", "33333", 3, 0, 0);
+        seamOf("1238", "8", 1, 3, 0);
+        seamOf("8", "1238", 1, 0, 3);
         HemSuffixes made = hems("12", "12", "");
         for (int what : new int[] {-1, 3, Integer.MIN_VALUE, Integer.MAX_VALUE}) {
             refused("seam, no such part", Check.INDEX, made, () -> made.seam(what));
