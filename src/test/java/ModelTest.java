@@ -7,6 +7,7 @@ import java.util.TreeSet;
 public final class ModelTest {
     private static final int RUNS = 400;
     private static final int CALLS = 512;
+    private static final int KINDS_OF_CALLS = 29;
     private static final int SHOWN = 20;
 
     private static final Check check = new Check();
@@ -25,10 +26,11 @@ public final class ModelTest {
         Model model = new Model();
         int kinds = 1 + run % 9;
         int wrongEvery = run % 2 == 0 ? 8 : 1000;
-        for (int call = 0; call < CALLS && check.failures() < SHOWN; call++) {
+        for (int call = 1; call < CALLS && check.failures() < SHOWN; call++) {
             String what = "run " + run + " call " + call + " on " + model + ": ";
             oneCall(what, real, model, kinds, next(wrongEvery) == 0);
         }
+        both("run " + run + " call " + CALLS + ": ", "digest", 0, 0, () -> real.digest(), () -> model.digest());
     }
 
     private static void oneCall(String what, HemSuffixes real, Model model, int kinds, boolean wrong) {
@@ -38,7 +40,7 @@ public final class ModelTest {
         int a = wrong ? wild() : next(length + 1);
         int b = wrong && next(2) == 0 ? wild() : next(length + 1);
         int part = wrong ? wild() : next(6);
-        switch (next(28)) {
+        switch (next(KINDS_OF_CALLS)) {
             case 0, 1, 2, 3 -> both(what, "sew", hem, stitch, () -> real.sew(hem, stitch), () -> model.sew(hem, stitch));
             case 4 -> {
                 int many = wrong ? wild() : 1 + next(12);
@@ -79,10 +81,8 @@ public final class ModelTest {
             case 24 -> both(what, "seam", part, 0, () -> real.seam(part), () -> model.seam(part));
             case 25 -> both(what, "would", hem, stitch, () -> real.would(hem, stitch), () -> model.would(hem, stitch));
             case 26 -> both(what, "advise", hem, 0, () -> real.advise(hem), () -> model.advise(hem));
-            default -> {
-                both(what, "mean", 0, 0, () -> real.mean(), () -> model.mean());
-                both(what, "digest", 0, 0, () -> real.digest(), () -> model.digest());
-            }
+            case 27 -> both(what, "mean", 0, 0, () -> real.mean(), () -> model.mean());
+            default -> both(what, "digest", 0, 0, () -> real.digest(), () -> model.digest());
         }
     }
 

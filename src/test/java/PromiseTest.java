@@ -28,42 +28,23 @@ public final class PromiseTest {
         check.finish();
     }
 
-    /** Hems and a sample of the stitches that the digits name. */
     private static HemSuffixes hems(String zero, String one, String sample) {
-        HemSuffixes made = new HemSuffixes();
-        for (char stitch : zero.toCharArray()) {
-            made.sew(0, stitch - '0');
-        }
-        for (char stitch : one.toCharArray()) {
-            made.sew(1, stitch - '0');
-        }
-        for (char stitch : sample.toCharArray()) {
-            made.add(stitch - '0');
-        }
-        return made;
+        return new Hems(zero, one, sample).made();
     }
 
     private static HemSuffixes hem(String zero) {
         return hems(zero, "", "");
     }
 
-    private static String inHem(HemSuffixes made, int hem) {
-        StringBuilder text = new StringBuilder();
-        for (int place = 0; place < made.count(hem); place++) {
-            text.append(made.stitch(hem, place));
-        }
-        return text.toString();
-    }
-
     private static String text(HemSuffixes made) {
-        return inHem(made, 0) + "/" + inHem(made, 1) + "/" + made.count(2);
+        return Hems.text(made);
     }
 
-    /** The call throws this, and changes neither what the object tells nor its checksum. */
+    /** The call throws this, and changes nothing; the checksum stands for all, as an object has but 512 calls. */
     private static void refused(String what, String thrown, HemSuffixes made, Check.Call call) {
-        String before = text(made) + " " + made.digest();
+        long before = made.digest();
         check.due(what, thrown, call);
-        check.due(what + ", and then the object", before, () -> text(made) + " " + made.digest());
+        check.due(what + ", and then the checksum", before, () -> made.digest());
     }
 
     private static void newObject() {

@@ -4,6 +4,7 @@ final class Check {
     static final String ARGUMENT = "IllegalArgumentException";
     static final String STATE = "IllegalStateException";
 
+    private String about = "";
     private int passed = 0;
     private int failed = 0;
 
@@ -21,14 +22,53 @@ final class Check {
         }
     }
 
+    /** What stands ahead of all that is printed from here on. */
+    void about(String what) {
+        about = what;
+    }
+
     void due(String what, Object due, Call call) {
         String got = answerOf(call);
         if (got.equals(String.valueOf(due))) {
             passed++;
         } else {
-            failed++;
-            System.out.println(what + " answered " + got + ", due is " + due);
+            fail(what + " answered " + got + ", due is " + due);
         }
+    }
+
+    /** What an object made for this call alone answers. */
+    void due(String what, Object due, Hems hems, Hems.Asked call) {
+        HemSuffixes made = hems.made();
+        due(what + " on " + hems, due, () -> call.of(made));
+    }
+
+    /** The call throws this, and behind it the object is as one that was never asked. */
+    void refused(String what, String thrown, Hems hems, Hems.Asked call) {
+        HemSuffixes asked = hems.made();
+        due(what + " on " + hems, thrown, () -> call.of(asked));
+        asBefore(what, hems, asked);
+    }
+
+    /** The call answers, and behind it the object is as one that was never asked. */
+    void dueAndNoChange(String what, Object due, Hems hems, Hems.Asked call) {
+        HemSuffixes asked = hems.made();
+        due(what + " on " + hems, due, () -> call.of(asked));
+        asBefore(what, hems, asked);
+    }
+
+    private void asBefore(String what, Hems hems, HemSuffixes asked) {
+        HemSuffixes twin = hems.made();
+        due(what + " on " + hems + ", and then all that it tells", Hems.told(twin), () -> Hems.told(asked));
+        due(what + " on " + hems + ", and then what it does", Hems.goneOn(twin), () -> Hems.goneOn(asked));
+    }
+
+    void fail(String what) {
+        failed++;
+        System.out.println(about + what);
+    }
+
+    int checks() {
+        return passed + failed;
     }
 
     int failures() {
